@@ -1539,7 +1539,9 @@ public final class GapLetter {
         private static final int WORDS = Tongue.WORDS + Tongue.COINED;
         private static final int SETS = 1 << WORDS;
 
+        /** By word: those that may be said behind it, and those that it may be said behind, as bits. */
         private final int[] behind = new int[WORDS];
+        private final int[] ahead = new int[WORDS];
         /** By words said: which of them, said last, leave the other without a way to win, as bits. */
         private final int[] winning = new int[SETS];
         /** By words said: which of them can be the last of a row of just these, as bits. */
@@ -1562,12 +1564,14 @@ public final class GapLetter {
             solved = false;
             longestRow = NONE;
             sayable = words & (SETS - 1);
+            Arrays.fill(behind, 0);
+            Arrays.fill(ahead, 0);
             for (int w = 0; w < WORDS; w++) {
-                behind[w] = 0;
                 for (int v = 0; v < WORDS; v++) {
                     if (v != w && bit(sayable, v) && bit(sayable, w)
                             && Spelling.first(tongue.spelt[v]) == Spelling.last(tongue.spelt[w])) {
                         behind[w] |= 1 << v;
+                        ahead[v] |= 1 << w;
                     }
                 }
             }
@@ -1597,21 +1601,34 @@ public final class GapLetter {
 
         /** From most words said to fewest, as each answer says one more. */
         private void solve() {
-            for (int said = sayable; said > 0; said = (said - 1) & sayable) {
-                int good = 0;
-                for (int w = 0; w < WORDS; w++) {
-                    if (bit(sayable & ~said, w) && bit(winning[said | 1 << w], w)) {
-                        good |= 1 << w;
-                    }
+            for (int said = sayable; said > 0; said--) {
+                if ((said & ~sayable) == 0) {
+                    winning[said] = lastsThatWin(said, wordsThatWinBehind(said));
                 }
-                int found = 0;
-                for (int w = 0; w < WORDS; w++) {
-                    if (bit(said, w) && (behind[w] & good) == 0) {
-                        found |= 1 << w;
-                    }
-                }
-                winning[said] = found;
             }
+        }
+
+        /** Words not said yet by which who says them next would win, whatever was last. */
+        private int wordsThatWinBehind(int said) {
+            int open = sayable & ~said;
+            int found = 0;
+            for (int w = 0; w < WORDS; w++) {
+                if (bit(open, w)) {
+                    found |= winning[said | 1 << w] & 1 << w;
+                }
+            }
+            return found;
+        }
+
+        /** Words said that, being last, can't be answered by any of those that win. */
+        private int lastsThatWin(int said, int winningNext) {
+            int found = 0;
+            for (int w = 0; w < WORDS; w++) {
+                if (bit(said, w) && (behind[w] & winningNext) == 0) {
+                    found |= 1 << w;
+                }
+            }
+            return found;
         }
 
         int mostInARow() {
@@ -1621,7 +1638,7 @@ public final class GapLetter {
             return longestRow;
         }
 
-        /** From fewest words said to most: a row's last word goes behind the last of a shorter one. */
+        /** From fewest words said to most, as a row's last word goes behind the last of a shorter one. */
         private int findLongestRow() {
             int most = 0;
             for (int said = 1; said <= sayable; said++) {
@@ -1640,21 +1657,12 @@ public final class GapLetter {
             for (int w = 0; w < WORDS; w++) {
                 if (bit(said, w)) {
                     int others = said & ~(1 << w);
-                    if (others == 0 || canFollow(endings[others], w)) {
+                    if (others == 0 || (endings[others] & ahead[w]) != 0) {
                         found |= 1 << w;
                     }
                 }
             }
             return found;
-        }
-
-        private boolean canFollow(int lasts, int w) {
-            for (int v = 0; v < WORDS; v++) {
-                if (bit(lasts, v) && bit(behind[v], w)) {
-                    return true;
-                }
-            }
-            return false;
         }
     }
 

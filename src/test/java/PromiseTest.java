@@ -23,6 +23,8 @@ public final class PromiseTest {
             CHECK.same("promise " + number + " has a test", Modifier.isStatic(test.getModifiers()), true);
             test.invoke(null);
         }
+        full();
+        twelve();
         CHECK.end();
     }
 
@@ -105,6 +107,14 @@ public final class PromiseTest {
         same("day anew", x.size(8), 0);
         same("gone anew", x.gone(), Check.letters("z"));
         CHECK.granted(x, "blanks beyond n", Check.tell(x, BARE), 1);
+        Check.feed(x, "tongue year 10;thing abc;word a means abcd");
+        CHECK.granted(x, "a word is cut by n", x.tongue(41), 1);
+        Check.feed(x, "tongue year 10");
+        CHECK.refused(x, "a whole is cut by n", x.tongue(13), 4);
+        same("its fault", x.fault(), 6);
+        Check.feed(x, "tongue year 199");
+        CHECK.refused(x, "a whole is cut by n", x.tongue(14), 4);
+        same("its fault", x.fault(), 6);
     }
 
     static void promise4() {
@@ -245,6 +255,13 @@ public final class PromiseTest {
         same("said", x.said(), 3);
         x = Check.told(BARE);
         CHECK.granted(x, "said", x.said(), 0);
+        x = Check.told(BARE + ";word az means a");
+        x.lose(0);
+        same("without an a", x.said(), 0);
+        x.find(0);
+        same("with one", x.said(), 1);
+        x.lose(25);
+        same("without a z", x.said(), 0);
     }
 
     static void promise12() {
@@ -377,6 +394,10 @@ public final class PromiseTest {
         x.coin(1);
         same("bat", x.rhymes(1, 2), 1 + 8 + 32);
         same("long", x.rhymes(4, 8), 0);
+        x = Check.told(BARE + ";word at means a;word au means a;word abcdefgh means a;word zbcdefgh means a");
+        same("t and u", x.rhymes(0, 1), 0);
+        same("seven", x.rhymes(2, 7), 8);
+        same("eight", x.rhymes(2, 8), 0);
     }
 
     static void promise20() {
@@ -475,6 +496,8 @@ public final class PromiseTest {
         same("one", x.dumb(), Check.letters("o"));
         x.lose(letter('t'));
         CHECK.granted(x, "dumb", x.dumb(), 0);
+        x = Check.told(BARE + ";word ab means a");
+        same("an a", x.dumb(), 1);
         x = Check.told(BARE + ";word bz means a;word cz means a");
         same("fewest first", x.dumb(), Check.letters("z"));
         x = Check.told(BARE + ";word bz means a;word cd means a");
@@ -493,6 +516,8 @@ public final class PromiseTest {
         CHECK.refused(x, "-1", x.hinges(-1), 1);
         x.lose(letter('h'));
         CHECK.refused(x, "can't be said", x.hinges(1), 5);
+        x = Check.told(BARE + ";saying s of a;word az means a");
+        same("a, z", x.hinges(0), Check.letters("az"));
     }
 
     static void promise28() {
@@ -637,6 +662,8 @@ public final class PromiseTest {
         CHECK.refused(x, "-1", x.answer(-1), 1);
         x = Check.told(BARE + ";word xa means a;word ab means a;word bc means a;word aa means a;word ac means a");
         same("the first that wins", x.answer(0), 4);
+        x = Check.told(BARE + ";word aba means a;word aca means a");
+        same("the word itself is said", x.answer(0), 1);
     }
 
     static void promise37() {
@@ -934,6 +961,73 @@ public final class PromiseTest {
         same("tape", x.size(11), 20);
         same("12", x.size(12), -1);
         same("-1", x.size(-1), -1);
+    }
+
+    /** A tongue in which every row is full, so that the last place of each is used. */
+    private static void full() {
+        StringBuilder text = new StringBuilder("tongue year 99");
+        for (char t = 'a'; t <= 'f'; t++) {
+            text.append(";thing ").append(t);
+        }
+        for (char k = 'p'; k <= 't'; k++) {
+            text.append(";saying ").append(k).append(" of f,e,d,").append(k == 't' ? 'f' : 'c');
+        }
+        for (char k = 'a'; k <= 'd'; k++) {
+            text.append(";coined zzzz").append(k).append("zzz means f");
+        }
+        for (char w = 'a'; w <= 'h'; w++) {
+            text.append(";word x").append(w).append(w < 'f' ? " means " + w : "yyyyyx means f");
+        }
+        for (char l = 'u'; l <= 'z'; l++) {
+            text.append(";gone ").append(l).append(" day ").append(l == 'z' ? 99 : 98);
+        }
+        text.append(";heard a;heard b;heard c;heard d;heard e;shunned fx;old f;old f;old f;old f;old fyyyyyx");
+        GapLetter x = Check.told(text.toString());
+        int[] due = {99, 6, 5, 8, 4, 6, 6, 5, 0, 0, 0, 0};
+        for (int what = 0; what < due.length; what++) {
+            same("full size " + what, x.size(what), due[what]);
+        }
+        same("gone", x.gone(), Check.letters("z"));
+        same("f", x.thing(5, 2), 32 + 64 + 128);
+        same("f by its first", x.thing(5, 0), 5);
+        x.find(25);
+        for (int k = 0; k < 4; k++) {
+            CHECK.granted(x, "coin", x.coin(k));
+        }
+        same("f", x.thing(5, 2), 4096 - 32);
+        same("f by its first", x.thing(5, 0), 5);
+        same("last saying", x.saying(4), 8 + 2 + 2 + 8 + 3);
+        same("longest saying", x.longestSaying(), 4);
+        same("last coined", x.word(11, 3), Check.letters("dz"));
+        same("rhymes", x.rhymes(11, 3), 256 + 512 + 1024);
+        same("which", x.which(), Check.letters("fx"));
+        same("judge", x.judge(letter('g')), 5);
+        same("old", x.readings(4, letter('x')), 0);
+        same("answers in a ring", x.answers(5), 7);
+        same("rows of z", x.answers(8), 3);
+        same("in a row", x.longestChain(), 4);
+        same("days", x.days(98), Check.letters("uvwxy"));
+        same("unsaid", x.led(4), 4);
+        same("said", x.said(), 32);
+    }
+
+    /** Words of one thing alone, as many as there may be. */
+    private static void twelve() {
+        StringBuilder text = new StringBuilder(BARE);
+        for (int i = 0; i < 12; i++) {
+            text.append(i < 8 ? ";word k" : ";coined k").append((char) ('a' + i)).append("k means a");
+        }
+        GapLetter x = Check.told(text.toString());
+        for (int k = 0; k < 4; k++) {
+            x.coin(k);
+        }
+        same("twelve words", x.thing(0, 3), 12);
+        same("rarest of one", x.rarest(), 0);
+        same("twelve in a row", x.longestChain(), 12);
+        same("an even ring", x.opening(), -2);
+        same("the best answer", x.answer(11), 0);
+        same("eleven answers", x.answers(11), 11);
+        same("a hinge of all", x.dumb(), Check.letters("k"));
     }
 
     static void promise53() {
