@@ -43,6 +43,10 @@ final class Check {
         same("trouble behind " + what, x.trouble(), 0);
     }
 
+    int answers() {
+        return calls;
+    }
+
     void end() {
         System.out.println(name + ": " + calls + " answers, " + wrong + " wrong");
         if (wrong > 0 || calls == 0) {
