@@ -212,6 +212,38 @@ class Boundary {
         }
     }
 
+    /** What an object answers to calls that only ask. */
+    static List<Long> answersOf(GapLetter x) {
+        List<Long> found = new ArrayList<>();
+        for (int answer : new int[] {x.gone(), x.said(), x.longest(), x.longestSaying(), x.which(), x.bill(), x.billLeaves(),
+            x.worst(), x.kindest(), x.dumb(), x.again(), x.rarest(), x.stoodOut(), x.opening(), x.longestChain(),
+            x.saidOn(1), x.saidOn(99)}) {
+            found.add((long) answer);
+        }
+        for (int at = A; at <= Z; at++) {
+            addAll(found, x.users(at), x.saidIf(at), x.judge(at), x.ways(at), x.twins(at));
+        }
+        for (int k = 0; k < 5; k++) {
+            addAll(found, x.saying(k), x.dumbIn(k), x.lasts(k), x.hinges(k), x.readings(k, letter('o')));
+        }
+        for (int t = 0; t < 6; t++) {
+            addAll(found, x.thing(t, 2), x.lettersOf(t), x.yet(t, 1, false));
+        }
+        for (int w = 0; w < 12; w++) {
+            addAll(found, x.word(w, 0), x.word(w, 1), x.rhymes(w, 1), x.wins(w), x.answer(w), x.answers(w));
+        }
+        for (int what = 0; what <= 11; what++) {
+            found.add((long) x.size(what));
+        }
+        return found;
+    }
+
+    private static void addAll(List<Long> found, long... answers) {
+        for (long answer : answers) {
+            found.add(answer);
+        }
+    }
+
     static boolean ledThrows(GapLetter x, int i) {
         try {
             x.led(i);

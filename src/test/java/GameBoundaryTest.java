@@ -16,6 +16,7 @@ public final class GameBoundaryTest extends Boundary {
     public static void main(String[] args) throws IOException {
         begin("GameBoundaryTest");
         game();
+        gameNow();
         wins();
         opening();
         answer();
@@ -59,6 +60,43 @@ public final class GameBoundaryTest extends Boundary {
         sentence("Terms III", "A word WINS if who begins with it wins, both playing best.");
         grants(bare(";word ab means a;word bc means a;word bd means a;word ce means a"), "there is a better answer", x -> x.wins(0), 0);
         grants(bare(";word ab means a;word bc means a;word ce means a"), "the only answer loses", x -> x.wins(0), 1);
+    }
+
+    private static void gameNow() {
+        sentence("Terms III", "one says a word that can be SAID NOW (told or coined by COIN)");
+        GapLetter x = Check.told(BARE + ";word aba means a;word aca means a;word ada means a;coined aea means a;coined afg means a");
+        three(x);
+        x.lose(letter('d'));
+        due("two: wins", x.wins(0), 0);
+        due("two: answer", x.answer(0), 1);
+        due("two: in a row", x.longestChain(), 2);
+        due("two: answers", x.answers(0), 1);
+        x.coin(0);
+        three(x);
+        x.find(letter('d'));
+        due("four: wins", x.wins(0), 0);
+        due("four: in a row", x.longestChain(), 4);
+        due("four: opening", x.opening(), -2);
+        x.mark();
+        x.coin(1);
+        due("a dead end: wins", x.wins(0), 0);
+        due("a dead end: answer", x.answer(0), 4);
+        due("a dead end: opening", x.opening(), 4);
+        due("a dead end: in a row", x.longestChain(), 5);
+        x.back(0);
+        due("without it: opening", x.opening(), -2);
+        due("without it: in a row", x.longestChain(), 4);
+        onlyLeft(x, "");
+        due("none: opening", x.opening(), -2);
+        due("none: in a row", x.longestChain(), 0);
+    }
+
+    private static void three(GapLetter x) {
+        due("three: wins", x.wins(0), 1);
+        due("three: answer", x.answer(0), -2);
+        due("three: opening", x.opening(), 0);
+        due("three: in a row", x.longestChain(), 3);
+        due("three: answers", x.answers(0), 2);
     }
 
     private static void wins() {

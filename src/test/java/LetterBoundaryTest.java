@@ -221,6 +221,8 @@ public final class LetterBoundaryTest extends Boundary {
         grants(bare(";old aa;word aza means a;word aaz means a;word za means a"), "as often", x -> x.readings(0, Z), 1 + 2);
         grants(bare(";old h;word aaaahaaa means a"), "seven stand out", x -> x.readings(0, A), 1);
         grants(bare(";old bcdefgh;word abcdefgh means a"), "seven are left", x -> x.readings(0, A), 1);
+        grants(bare(";old abcdefg;word abcdefgz means a"), "the last stands out", x -> x.readings(0, Z), 1);
+        grants(bare(";old bcdefg;word abcdefgz means a"), "the first stays", x -> x.readings(0, Z), 0);
         grants(bare(";old abcdefgh;word abcdefgh means a"), "none stands out", x -> x.readings(0, Z), 0);
         sentence("Promise 30", "READINGS of an old word by a letter (0 .. 25), as bits of words.");
         grants(told(eightWays()), "all eight words", x -> x.readings(4, letter('x')), 255);
@@ -277,6 +279,7 @@ public final class LetterBoundaryTest extends Boundary {
         grants(bare(";word bz means a;word bc means a;word cb means a;word b means a"), "in one", x -> x.twins(Z), 3);
         grants(bare(";word ax means a;word b means a;word xb means a;word a means a"), "the lesser counts first",
                 x -> x.twins(letter('x')), 3);
+        grants(bare(";word abcdefgz means a;word bcdefgz means a;word abcdefg means a"), "of eight letters", x -> x.twins(Z), 2);
         grants(bare(";word aa means a;word a means a"), "nothing is left", x -> x.twins(A), 1);
         grants(bare(";word aa means a;word a means a"), "it is in none", x -> x.twins(Z), -2);
         grants(bare(";word a means a"), "one word", x -> x.twins(A), -2);

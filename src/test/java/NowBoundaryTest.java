@@ -343,6 +343,8 @@ public final class NowBoundaryTest extends Boundary {
         grants(told(text), "of one that isn't coined", x -> x.rhymes(5, 6), 1 + 2);
         grants(() -> without(Check.told(text), "a"), "of one that can't be said", x -> x.rhymes(0, 7), 2);
         grants(() -> without(Check.told(text), "a"), "to one that can't be said", x -> x.rhymes(1, 7), 0);
+        grants(told(BARE + ";word ab means a;word ac means a;word az means a;word ay means a"), "other letters", x -> x.rhymes(0, 1), 0);
+        grants(told(BARE + ";word bx means a;word cx means a;word bbx means a"), "other letters", x -> x.rhymes(0, 2), 4);
         sentence("Promise 19", "those shorter than so many aside, itself, too: 0 then.");
         grants(told(text), "a letter", x -> x.rhymes(2, 1), 1 + 2 + 8);
         grants(told(text), "more than it has", x -> x.rhymes(2, 2), 0);

@@ -38,6 +38,7 @@ public final class TextBoundaryTest extends Boundary {
         feed();
         tongueOfSoMany();
         tongueAnew();
+        tongueAfterTongue();
         tongueRefused();
         fault();
         where();
@@ -332,6 +333,12 @@ public final class TextBoundaryTest extends Boundary {
             if (!TOKENS[i].equals("5") && !TOKENS[i].equals("1")) {
                 bad(ahead + "7", 1, ahead.length());
             }
+            if (i == 0 || !mayEndBehind(i - 1)) {
+                bad(ahead + ";", 1, ahead.length());
+                bad(ahead + ";#", 1, ahead.length());
+                bad(ahead + "; thing s;old 5", 1, ahead.length());
+                bad(ahead + ", thing s;old 5", 1, ahead.length());
+            }
             if (!isFree(TOKENS[i])) {
                 bad(ahead + "abc", 1, ahead.length());
                 bad(ahead + "of of", 1, ahead.length() + (TOKENS[i].equals("of") ? 3 : 0));
@@ -360,6 +367,10 @@ public final class TextBoundaryTest extends Boundary {
         badLast("saying ", "s", 3);
         badLast("saying k of s;saying ", "k", 3);
         badLast("saying k of s;thing ", "k", 3);
+        badLast("saying j of s;saying k of s;saying ", "k", 3);
+        badLast(several("saying ", " of s", 4).substring(HEAD.length() + 1) + ";saying ", "d", 3);
+        badLast(several("saying ", " of s", 5).substring(HEAD.length() + 1) + ";thing ", "e", 3);
+        badLast("thing t;thing u;thing v;thing ", "v", 3);
         good(HEAD + ";saying ss of s;thing ms", 3);
         sentence("Terms I", "a SPELT told already (word, coined); at it;");
         badLast("word s means s;word ", "s", 3);
@@ -505,6 +516,12 @@ public final class TextBoundaryTest extends Boundary {
         Check.feed(x, "tongue year 12;thing abc;thing d#####");
         due("the first 13", x.tongue(13), -1);
         due("a whole is cut", x.where(), 13);
+        Check.feed(x, "tongue year 12;thing abcdefghi");
+        due("a word is cut", x.tongue(29), 1);
+        Check.feed(x, "tongue year 12;thing abcd;word e means abc");
+        due("a name is cut", x.tongue(24), 1);
+        Check.feed(x, "tongue year 12;thing abc;word e means abcd");
+        due("a name is cut", x.tongue(41), 1);
         due("none of none", x.tongue(0), -1);
         due("the end is there", x.where(), 0);
         due("of 0 bytes", x.fault(), 1);
@@ -539,6 +556,32 @@ public final class TextBoundaryTest extends Boundary {
         due("all letters stood out", y.stoodOut(), ALL);
         due("it can be any letter", y.which(), ALL);
         stays("one behind another", y, daysOn(Check.told(BARE)));
+    }
+
+    private static void tongueAfterTongue() {
+        sentence("Promise 3", "are the TONGUE from now on");
+        String small = "tongue year 7;thing f;word k means f;coined ij means f;saying p of f;gone y day 1;heard z;old k";
+        String other = "tongue year 7;thing u;thing v;word pq means v;word qp means u;word qq means v;word rs means u"
+                + ";word st means u;word tu means u;word uv means v;word v means v";
+        String[][] runs = {{FULL, FULL, FULL}, {FULL + ";#", BARE}, {FULL, FULL, BARE}, {FULL, FULL, small},
+            {FULL + ";#", small}, {small, FULL, small}, {other, FULL + ";thing", other}, {FULL, other, FULL}};
+        for (String[] run : runs) {
+            GapLetter x = new GapLetter();
+            for (String text : run) {
+                Check.tell(x, text);
+                x.wins(0);
+                x.longestChain();
+            }
+            String last = run[run.length - 1];
+            due("as on a new object: " + last, answersOf(x).equals(answersOf(Check.told(last))), true);
+        }
+        GapLetter y = Check.told(BARE + ";word aba means a;word bca means a");
+        due("aba, no answer", y.wins(0), 1);
+        due("bca, aba", y.longestChain(), 2);
+        due("another tongue", Check.tell(y, BARE + ";word aba means a;word aca means a"), 1);
+        due("aba, aca", y.wins(0), 0);
+        due("another tongue", Check.tell(y, BARE + ";word aba means a;word bcb means a"), 1);
+        due("one alone", y.longestChain(), 1);
     }
 
     private static GapLetter daysOn(GapLetter x) {
