@@ -562,9 +562,10 @@ public final class TextBoundaryTest extends Boundary {
         sentence("Promise 3", "are the TONGUE from now on");
         String small = "tongue year 7;thing f;word k means f;coined ij means f;saying p of f;gone y day 1;heard z;old k";
         String other = "tongue year 7;thing u;thing v;word pq means v;word qp means u;word qq means v;word rs means u"
-                + ";word st means u;word tu means u;word uv means v;word v means v";
+                + ";word st means u;word tu means u;word uv means v;word v means v;heard a;heard b;heard c;heard d;heard e;heard f";
         String[][] runs = {{FULL, FULL, FULL}, {FULL + ";#", BARE}, {FULL, FULL, BARE}, {FULL, FULL, small},
-            {FULL + ";#", small}, {small, FULL, small}, {other, FULL + ";thing", other}, {FULL, other, FULL}};
+            {FULL + ";#", small}, {small, FULL, small}, {other, FULL + ";thing", other}, {FULL, other, FULL},
+            {FULL, BARE, other}, {other, BARE, FULL}};
         for (String[] run : runs) {
             GapLetter x = new GapLetter();
             for (String text : run) {
