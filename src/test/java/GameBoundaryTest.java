@@ -55,6 +55,7 @@ public final class GameBoundaryTest extends Boundary {
         grants(ring(2), "one behind the other", x -> x.wins(0), 0);
         grants(bare(";word k means a"), "one letter, not twice", x -> x.wins(0), 1);
         grants(bare(";word k means a;word kk means a"), "an answer to it", x -> x.wins(0), 0);
+        grants(bare(";word k means a;word kk means a"), "one letter as an answer", x -> x.wins(1), 0);
         grants(bare(";word ab means a;word ba means a;word bb means a"), "ab, ba, then ab is said", x -> x.wins(0), 0);
         grants(bare(";word ab means a;word ba means a;word bb means a"), "bb, ba, ab, then both are said", x -> x.wins(2), 1);
         sentence("Terms III", "A word WINS if who begins with it wins, both playing best.");
@@ -167,6 +168,8 @@ public final class GameBoundaryTest extends Boundary {
         grants(ring(12), "eleven", x -> x.answers(11), 11);
         grants(ring(1), "itself aside", x -> x.answers(0), 0);
         grants(deadEnd(), "one", x -> x.answers(10), 1);
+        grants(bare(";word abcdefgz means a;word z means a;word zbcdefgh means a"), "of one letter, of eight", x -> x.answers(0), 2);
+        grants(bare(";word abcdefgz means a;word z means a;word zbcdefgh means a"), "of eight to one", x -> x.answers(1), 1);
         grants(deadEnd(), "none", x -> x.answers(11), 0);
         grants(told(DEAD_END), "it isn't coined", x -> x.answers(0), 0);
         grants(() -> without(Check.told(BARE + ";word ab means a;word bc means a;word bd means a"), "d"), "one can't be said",
